@@ -4,8 +4,8 @@ import java.util.Arrays;
 public final class Slugwire {
 
     private static final int NONE = -1;
-    private static final int LACKS_A_VALUE = -2;
-    private static final int LACKS_ONE_FACT = -3;
+    private static final int NOTHING_TO_FILE = -2;
+    private static final int NOT_ONE_FACT = -3;
 
     private static final int MAX_SOURCES = 10;
     private static final int MAX_STORIES = 6;
@@ -31,7 +31,8 @@ public final class Slugwire {
 
     private final Sources sources;
     private final Tally tally;
-    private final Fact[] facts;
+    /** Four of each story, one story behind the other. */
+    private final Fact[] factRows;
     private final Take[] takes;
     private final Line[] lines;
     /** A line to try out on what would be, so that no real one is changed. */
@@ -45,9 +46,9 @@ public final class Slugwire {
     public Slugwire() {
         sources = new Sources();
         tally = new Tally();
-        facts = new Fact[MAX_STORIES * FACTS];
-        for (int i = 0; i < facts.length; i++) {
-            facts[i] = new Fact();
+        factRows = new Fact[MAX_STORIES * FACTS];
+        for (int i = 0; i < factRows.length; i++) {
+            factRows[i] = new Fact();
         }
         takes = new Take[MAX_TAKES];
         for (int i = 0; i < takes.length; i++) {
@@ -100,33 +101,33 @@ public final class Slugwire {
         checkSource(source);
         checkFact(story, fact);
         checkValue(value);
-        Fact known = factAt(story, fact);
-        known.said[source] = value;
-        known.settle(sources, tally);
-        tally.weigh(sources, known.said, value);
+        Fact asked = factAt(story, fact);
+        asked.said[source] = value;
+        asked.settle(sources, tally);
+        tally.weigh(sources, asked.said, value);
         return tally.proofGrade();
     }
 
     public int retract(int source, int story, int fact) throws IndexOutOfBoundsException, IllegalStateException {
         checkSource(source);
         checkFact(story, fact);
-        Fact known = factAt(story, fact);
-        int value = known.said[source];
+        Fact asked = factAt(story, fact);
+        int value = asked.said[source];
         if (value == NONE) {
             throw new IllegalStateException("the source says nothing of that");
         }
-        known.said[source] = NONE;
-        known.settle(sources, tally);
+        asked.said[source] = NONE;
+        asked.settle(sources, tally);
         return value;
     }
 
     public boolean rival(int story, int fact) throws IndexOutOfBoundsException {
         checkFact(story, fact);
-        Fact known = factAt(story, fact);
-        if (known.rivalAt != NONE) {
+        Fact asked = factAt(story, fact);
+        if (asked.rivalAt != NONE) {
             return false;
         }
-        known.rivalAt = now;
+        asked.rivalAt = now;
         return true;
     }
 
@@ -151,10 +152,10 @@ public final class Slugwire {
         }
         checkRoomForTake();
         if (!hasValues(story, facts, isGuarded)) {
-            return LACKS_A_VALUE;
+            return NOTHING_TO_FILE;
         }
         if (kind == FLASH && Integer.bitCount(facts) != 1) {
-            return LACKS_ONE_FACT;
+            return NOT_ONE_FACT;
         }
         int number = addTake(story, kind, facts, isGuarded, hold, NONE);
         runOnAllLines(number);
@@ -174,7 +175,7 @@ public final class Slugwire {
         int story = takes[take].story;
         int truth = factAt(story, fact).truth;
         if (truth == NONE || truth == takes[take].values[fact]) {
-            return LACKS_A_VALUE;
+            return NOTHING_TO_FILE;
         }
         int number = addTake(story, CORRECTION, 1 << fact, false, 0, take);
         runOnAllLines(number);
@@ -228,13 +229,13 @@ public final class Slugwire {
 
     public int ofFact(int story, int fact, int what) throws IndexOutOfBoundsException, IllegalArgumentException {
         checkFact(story, fact);
-        Fact known = factAt(story, fact);
+        Fact asked = factAt(story, fact);
         switch (what) {
-            case 0: return known.truth;
-            case 1: return known.heard;
-            case 2: return known.countSayers();
-            case 3: return known.countValues();
-            case 4: return known.rivalAt;
+            case 0: return asked.truth;
+            case 1: return asked.heard;
+            case 2: return asked.countSayers();
+            case 3: return asked.countValues();
+            case 4: return asked.rivalAt;
             case 5: return firstHad(story, fact);
             case 6: return isFirst(story, fact) ? 1 : 0;
             default: throw new IllegalArgumentException("what must be 0 to 6");
@@ -375,14 +376,14 @@ public final class Slugwire {
         checkFact(story, fact);
         checkValue(value);
         checkWeight(weight);
-        Fact known = factAt(story, fact);
-        int other = known.strongest(sources, tally, true, value);
+        Fact asked = factAt(story, fact);
+        int other = asked.strongest(sources, tally, true, value);
         int otherForce = 0;
         if (other != NONE) {
-            tally.weigh(sources, known.said, other);
+            tally.weigh(sources, asked.said, other);
             otherForce = tally.force;
         }
-        tally.weigh(sources, known.said, value);
+        tally.weigh(sources, asked.said, value);
         for (int added = 0; added <= MOST_NEW_SOURCES; added++) {
             boolean isStronger = tally.force > otherForce || (tally.force == otherForce && value < other);
             if (isStronger && tally.proofGrade() > 0) {
@@ -532,7 +533,7 @@ public final class Slugwire {
     // ---- facts
 
     private Fact factAt(int story, int fact) {
-        return facts[story * FACTS + fact];
+        return factRows[story * FACTS + fact];
     }
 
     private static boolean isInSet(int set, int fact) {
@@ -594,7 +595,7 @@ public final class Slugwire {
     private int countTruths() {
         int count = 0;
         for (int i = 0; i < storyCount * FACTS; i++) {
-            if (facts[i].truth != NONE) {
+            if (factRows[i].truth != NONE) {
                 count++;
             }
         }
@@ -604,7 +605,7 @@ public final class Slugwire {
     private int countUnproven() {
         int count = 0;
         for (int i = 0; i < storyCount * FACTS; i++) {
-            if (facts[i].truth == NONE && facts[i].heard != NONE) {
+            if (factRows[i].truth == NONE && factRows[i].heard != NONE) {
                 count++;
             }
         }
@@ -697,15 +698,6 @@ public final class Slugwire {
         return NONE;
     }
 
-    private boolean isWrong(int line, int story, int fact) {
-        int truth = factAt(story, fact).truth;
-        if (truth == NONE) {
-            return false;
-        }
-        int told = toldAtDesk(line, story, fact);
-        return told != NONE && told != truth;
-    }
-
     private int countTold(int line) {
         int count = 0;
         for (int s = 0; s < storyCount; s++) {
@@ -722,7 +714,9 @@ public final class Slugwire {
         int count = 0;
         for (int s = 0; s < storyCount; s++) {
             for (int f = 0; f < FACTS; f++) {
-                if (isWrong(line, s, f)) {
+                int told = toldAtDesk(line, s, f);
+                int truth = factAt(s, f).truth;
+                if (told != NONE && truth != NONE && told != truth) {
                     count++;
                 }
             }
@@ -950,7 +944,7 @@ public final class Slugwire {
         }
 
         private boolean hasAtDesk(int take, int minute) {
-            return isSent(take) && sentAt[take] + lag <= minute;
+            return left[take] == 0 && sentAt[take] + lag <= minute;
         }
 
         /** Returns how many takes were sent in it. */
