@@ -22,6 +22,7 @@ public final class AskedTest {
         ofLineRefused();
         many();
         meanDelay();
+        fullHouse();
         Check.end();
     }
 
@@ -76,6 +77,15 @@ public final class AskedTest {
         x.report(1, 0, 0, 60);
         Check.due("of two truths with the same force the smaller value", x.ofFact(0, 0, 0), 60);
         Check.due("what is heard is the truth", x.ofFact(0, 0, 1), 60);
+        x.report(1, 0, 1, 33);
+        x.report(2, 0, 1, 33);
+        x.report(5, 0, 1, 44);
+        x.report(3, 0, 1, 33);
+        Check.due("three roots with a force of 4", x.ofFact(0, 1, 0), 33);
+        x.retract(5, 0, 1);
+        Check.due("three roots alone", x.ofFact(0, 1, 0), 33);
+        x.retract(2, 0, 1);
+        Check.due("two roots", x.ofFact(0, 1, 0), -1);
         Slugwire y = house();
         y.report(5, 0, 0, 9);
         y.report(3, 0, 0, 8);
@@ -336,7 +346,9 @@ public final class AskedTest {
         dueOfLine(x, "it does not run any more", 1, 7, 0, 0, 1, 8, 7, 0, 0);
         x.pass(2);
         dueOfLine(x, "it was dropped", 0, 20, 1, 0, 1, 8, 55, 0, 0);
-        x.pass(50);
+        x.pass(44);
+        dueOfLine(x, "a word of the other flash is left", 1, 7, 0, 0, 1, 1, 14, 0, 0);
+        x.pass(6);
         dueOfLine(x, "the flash of the other story", 1, 7, 0, 0, 0, 0, 15, 1, 0);
     }
 
@@ -374,9 +386,60 @@ public final class AskedTest {
         for (int what = 0; what <= 10; what++) {
             Check.due("many(" + what + ")", x.many(what), due[what]);
         }
+        Slugwire y = house();
+        y.report(0, 0, 0, 5);
+        Check.due("the first fact is said without a truth", y.many(8), 1);
+        y.report(0, 1, 3, 5);
+        Check.due("the last one too", y.many(8), 2);
         for (int wrong : new int[] {-1, 11, Integer.MAX_VALUE, Integer.MIN_VALUE}) {
             Check.refusesArgument("many(" + wrong + ")", x, () -> x.many(wrong));
         }
+    }
+
+    /** Promise 21 and others, with all that there may be, the first and the last of each counting. */
+    private static void fullHouse() {
+        Slugwire x = new Slugwire();
+        for (int n = 0; n < 10; n++) {
+            x.source(3, -1);
+        }
+        for (int n = 0; n < 4; n++) {
+            x.line(60, 0);
+        }
+        for (int s = 0; s < 6; s++) {
+            x.story();
+            for (int f = 0; f < 4; f++) {
+                x.report(9, s, f, s * 4 + f);
+                x.file(s, 0, 1 << f, false, 0);
+            }
+        }
+        Check.due("24 truths", x.many(7), 24);
+        Check.due("all are sent on 4 lines", x.pass(4), 4 * 24);
+        for (int s = 0; s < 6; s++) {
+            for (int f = 0; f < 4; f++) {
+                x.report(9, s, f, 99);
+            }
+        }
+        Check.due("24 are wrong at 4 desks", x.many(10), 4 * 24);
+        Check.due("24 are wrong at the last one", x.ofLine(3, 7), 24);
+        Check.due("24 are told at the last one", x.ofLine(3, 6), 24);
+        Check.due("we are first with 24", x.many(9), 24);
+        for (int n = 24; n < 60; n++) {
+            x.file(5, 0, 8, false, 0);
+        }
+        Check.due("60 takes", x.many(4), 60);
+        Check.due("36 wait on the last line", x.ofLine(3, 3), 36);
+        Check.due("the last one goes", x.pass(9), 4 * 36);
+        Check.due("the last one is there", x.state(3, 59), 4);
+        Check.due("its fact is right", x.many(10), 4 * 23);
+        Check.dueExactly("the mean of 1 to 4 and 1 to 5 minutes",
+            x.meanDelay(), (7 + 8 * 2 + 7 * 3 + 2 * 4 + 7 + 8 * 2 + 7 * 3 + 8 * 4 + 6 * 5) / 60.0);
+        for (int s = 0; s < 6; s++) {
+            for (int f = 0; f < 4; f++) {
+                x.retract(9, s, f);
+            }
+        }
+        Check.due("nothing is said any more", x.many(8), 0);
+        Check.due("so nothing is wrong", x.many(10), 0);
     }
 
     /** Promise 22: from the minute of filing or the hold, whichever is greater, killed ones too. */

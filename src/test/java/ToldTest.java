@@ -127,6 +127,8 @@ public final class ToldTest {
         Check.due("one value said", x.ofFact(0, 0, 3), 1);
         Check.due("the same again", x.report(4, 0, 0, 8), 3);
         Check.due("one source says it", x.ofFact(0, 0, 2), 1);
+        Check.due("an unnamed one of another value has no proof", x.report(1, 0, 0, 9), 0);
+        Check.due("the truth is still that", x.ofFact(0, 0, 0), 8);
         Check.due("the smallest value", x.report(4, 1, 3, 0), 3);
         Check.due("it is the truth", x.ofFact(1, 3, 0), 0);
         Check.due("the greatest value", x.report(4, 1, 3, 99), 3);

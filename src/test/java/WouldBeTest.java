@@ -183,6 +183,13 @@ public final class WouldBeTest {
         x.report(1, 0, 3, 1);
         Check.due("one unnamed says it", x.needs(0, 3, 1, 2), 2);
         Check.due("nothing is changed", x.many(1), 4);
+        Slugwire y = house();
+        y.report(1, 0, 3, 20);
+        y.report(2, 0, 3, 20);
+        Check.due("as much force without proof is no bar", y.needs(0, 3, 99, 3), 1);
+        y.report(0, 0, 3, 20);
+        y.report(3, 0, 3, 40);
+        Check.due("the other with the greatest force is not the last said", y.needs(0, 3, 50, 3), 3);
     }
 
     /** Promise 25: 10 at most, also more than there is room for. */
@@ -228,6 +235,8 @@ public final class WouldBeTest {
         Check.due("room for three", x.lead(0, 65), 7);
         Check.due("the fourth has no truth", x.lead(0, 99), 7);
         Check.due("no words", x.lead(0, 0), 0);
+        x.report(3, 0, 0, 50);
+        Check.due("another value that is said last is no less force", x.lead(0, 35), 1);
         x.report(1, 0, 2, 12);
         Check.due("more force", x.lead(0, 35), 4);
         Check.due("with the smaller of the others", x.lead(0, 50), 5);
@@ -238,6 +247,12 @@ public final class WouldBeTest {
         Check.due("a force of 5", x.lead(0, 35), 8);
         Check.due("room for all", x.lead(0, 80), 15);
         Check.due("not quite", x.lead(0, 79), 13);
+        x.report(0, 0, 3, 6);
+        Check.due("the force is that of the truth, not of what is said last", x.lead(0, 35), 8);
+        x.report(0, 0, 0, 20);
+        x.report(2, 0, 0, 19);
+        x.report(3, 0, 0, 19);
+        Check.due("a force of 4 by 2 and 3", x.lead(0, 50), 9);
         x.story();
         Check.due("a story without truths", x.lead(1, 99), 0);
     }
@@ -255,15 +270,19 @@ public final class WouldBeTest {
     private static void digest() {
         Slugwire x = house();
         x.story();
-        x.line(12, 2);
-        x.line(60, 0);
+        x.line(5, 2);
+        x.line(12, 0);
         x.file(0, 4, 5, false, 0);
         x.pass(3);
         x.report(0, 0, 0, 50);
         x.correct(0, 0);
         x.pass(3);
         x.kill(0);
+        x.file(0, 4, 5, false, 0);
+        x.file(0, 3, 1, false, 0);
         x.rival(0, 3);
+        Check.due("35 and 50 words at 5 a minute", x.wouldArrive(0, 3, 50), 17 + 2);
+        Check.due("35 and 50 words at 12 a minute", x.wouldArrive(1, 3, 50), 8);
         long d = 58223;
         for (int what = 0; what <= 10; what++) {
             d = d * 31 + x.many(what);
@@ -275,7 +294,7 @@ public final class WouldBeTest {
             d = d * 31 + x.needs(i / 4, i % 4, 50, 2);
         }
         d = (d * 31 + x.lead(0, 55)) * 31 + x.lead(1, 55);
-        for (int t = 0; t < 3; t++) {
+        for (int t = 0; t < 5; t++) {
             for (int what = 0; what <= 8; what++) {
                 d = d * 31 + x.ofTake(t, what);
             }
@@ -288,7 +307,7 @@ public final class WouldBeTest {
                 d = d * 31 + x.ofLine(l, what);
             }
             d = d * 31 + x.wouldArrive(l, 3, 50);
-            for (int t = 0; t < 3; t++) {
+            for (int t = 0; t < 5; t++) {
                 d = d * 31 + x.state(l, t);
             }
         }
