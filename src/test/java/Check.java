@@ -17,6 +17,13 @@ final class Check {
         due(what, got ? 1 : 0, want ? 1 : 0);
     }
 
+    static void dueText(String what, String got, String want) {
+        made++;
+        if (!got.equals(want)) {
+            miss(what + " answered " + got + ", due is " + want);
+        }
+    }
+
     static void dueExactly(String what, double got, double want) {
         made++;
         if (!(got == want)) {
