@@ -45,17 +45,21 @@ final class EdgesOfAsked {
         Edge.of(13, "if there is no such SOURCE").given(Houses.BUSY)
             .refuses(INDEX, "areIndependent(4, 0); areIndependent(0, 4); areIndependent(-1, 0); areIndependent(0, -1)")
             .refuses(INDEX, "areIndependent(MIN, 0); areIndependent(0, MIN); areIndependent(MAX, 0)")
-            .refuses(INDEX, "areIndependent(0, MAX)").due("areIndependent(3, 0)", true).due("areIndependent(1, 3)", false);
+            .refuses(INDEX, "areIndependent(0, MAX)").due("areIndependent(3, 0)", true)
+            .due("areIndependent(1, 3)", false);
         Edge.of(13, "if there is no such SOURCE").given(Houses.FULL)
             .refuses(INDEX, "areIndependent(10, 0); areIndependent(0, 10)").due("areIndependent(9, 0)", true);
     }
 
     private static void ofFactSaid() {
         Edge.of(14, "0 its TRUTH").given("source(3, NONE); source(1, NONE); story()").due("ofFact(0, 0, 0)", -1)
-            .given("report(1, 0, 0, 50)").due("ofFact(0, 0, 0)", -1).given("report(0, 0, 0, 0)").due("ofFact(0, 0, 0)", 0)
-            .given("report(0, 0, 0, 99)").due("ofFact(0, 0, 0)", 99).given("retract(0, 0, 0)").due("ofFact(0, 0, 0)", -1);
+            .given("report(1, 0, 0, 50)").due("ofFact(0, 0, 0)", -1).given("report(0, 0, 0, 0)")
+            .due("ofFact(0, 0, 0)", 0)
+            .given("report(0, 0, 0, 99)").due("ofFact(0, 0, 0)", 99).given("retract(0, 0, 0)")
+            .due("ofFact(0, 0, 0)", -1);
         Edge.of(14, "1 what is HEARD").given("source(3, NONE); source(1, NONE); story()").due("ofFact(0, 0, 1)", -1)
-            .given("report(1, 0, 0, 0)").due("ofFact(0, 0, 1)", 0).given("report(0, 0, 0, 99)").due("ofFact(0, 0, 1)", 99)
+            .given("report(1, 0, 0, 0)").due("ofFact(0, 0, 1)", 0).given("report(0, 0, 0, 99)")
+            .due("ofFact(0, 0, 1)", 99)
             .given("retract(0, 0, 0)").due("ofFact(0, 0, 1)", 0).given("retract(1, 0, 0)").due("ofFact(0, 0, 1)", -1);
         Edge sayers = Edge.of(14, "2 how many SOURCES SAY something of it").given("story()").due("ofFact(0, 0, 2)", 0);
         Edge values = Edge.of(14, "3 how many VALUES of it are SAID").given("story()").due("ofFact(0, 0, 3)", 0);
@@ -79,7 +83,8 @@ final class EdgesOfAsked {
             .due("ofFact(0, 0, 5)", -1).given("file(0, 0, 1, false, 0)").due("ofFact(0, 0, 5)", -1).given("pass(1)")
             .due("ofFact(0, 0, 5)", 1).due("ofFact(0, 1, 5)", -1).given("pass(20)").due("ofFact(0, 0, 5)", 1)
             .given("file(0, 3, 3, false, 0); pass(9)").due("ofFact(0, 0, 5)", 1).due("ofFact(0, 1, 5)", 22);
-        Edge.of(14, "5 the minute from which on a desk HAD it first (NONE)").given(Houses.STORY).given("line(60, 9); line(1, 0)")
+        Edge.of(14, "5 the minute from which on a desk HAD it first (NONE)").given(Houses.STORY)
+            .given("line(60, 9); line(1, 0)")
             .given("file(0, 0, 1, false, 0); pass(7)").due("ofFact(0, 0, 5)", -1).given("pass(1)")
             .due("ofFact(0, 0, 5)", 8).given("pass(2)").due("ofFact(0, 0, 5)", 8);
         Edge.of(14, "6 1 if we are FIRST, otherwise 0").given(HOUSE).given("rival(0, 0); file(0, 3, 15, false, 0)")
@@ -96,7 +101,8 @@ final class EdgesOfAsked {
             .due("ofFact(5, 0, 0)", 20).due("ofFact(0, 1, 0)", 1);
         Edge.of(14, "or fact is not 0 to 3").given(Houses.BUSY)
             .refuses(INDEX, "ofFact(0, 4, 0); ofFact(0, -1, 0); ofFact(1, -1, 0); ofFact(1, 4, 0)")
-            .refuses(INDEX, "ofFact(0, MIN, 0); ofFact(0, MAX, 0)").due("ofFact(0, 0, 0)", 40).due("ofFact(1, 3, 0)", 0);
+            .refuses(INDEX, "ofFact(0, MIN, 0); ofFact(0, MAX, 0)").due("ofFact(0, 0, 0)", 40)
+            .due("ofFact(1, 3, 0)", 0);
         Edge.of(14, "if what is not 0 to 6").given(Houses.BUSY)
             .refuses(ARGUMENT, "ofFact(0, 0, -1); ofFact(0, 0, 7); ofFact(1, 3, MIN); ofFact(1, 3, MAX)")
             .due("ofFact(0, 0, 0)", 40).due("ofFact(0, 0, 6)", 1);
@@ -196,7 +202,8 @@ final class EdgesOfAsked {
             .due("state(1, 1)", 0).due("state(1, 2)", 0).due("state(0, 2)", 1).given("pass(9)").due("state(1, 0)", 0)
             .due("state(1, 1)", 0);
         Edge.of(18, "1 if it runs and nothing of it is gone").given(HOUSE)
-            .given("line(8, 0); file(0, 0, 1, false, 0); file(0, 0, 1, false, 0)").due("state(1, 1)", 1).given("pass(1)")
+            .given("line(8, 0); file(0, 0, 1, false, 0); file(0, 0, 1, false, 0)").due("state(1, 1)", 1)
+            .given("pass(1)")
             .due("state(1, 1)", 1).due("state(0, 1)", 4).given("pass(1)").due("state(1, 1)", 4);
         Edge.of(18, "2 if some WORDS are").given(HOUSE).given("line(1, 0); file(0, 0, 1, false, 0); pass(1)")
             .due("state(1, 0)", 2).given("pass(6)").due("state(1, 0)", 2).given("pass(1)").due("state(1, 0)", 4);
@@ -227,7 +234,8 @@ final class EdgesOfAsked {
     }
 
     private static void tells() {
-        Edge.of(19, "Returns what its desk TELLS of that").given(HOUSE).given("line(60, 1); story(); report(0, 0, 0, 0)")
+        Edge.of(19, "Returns what its desk TELLS of that").given(HOUSE)
+            .given("line(60, 1); story(); report(0, 0, 0, 0)")
             .given("report(0, 1, 3, 99)").due("tells(0, 0, 0)", -1)
             .given("file(0, 0, 1, false, 0); file(1, 0, 8, false, 0); pass(1)").due("tells(0, 0, 0)", 0)
             .due("tells(0, 1, 3)", 99).due("tells(1, 0, 0)", -1).due("tells(0, 0, 3)", -1).due("tells(0, 1, 0)", -1)
@@ -256,23 +264,33 @@ final class EdgesOfAsked {
         Edge.of(20, "0 its SPEED, 1 LAG").given("line(1, 9); line(60, 0)").due("ofLine(0, 0)", 1).due("ofLine(0, 1)", 9)
             .due("ofLine(1, 0)", 60).due("ofLine(1, 1)", 0);
         Edge.of(20, "2 for how many minutes it is DOWN").given("line(1, 0); line(1, 0)").due("ofLine(0, 2)", 0)
-            .given("down(0, 99)").due("ofLine(0, 2)", 99).due("ofLine(1, 2)", 0).given("pass(98)").due("ofLine(0, 2)", 1)
+            .given("down(0, 99)").due("ofLine(0, 2)", 99).due("ofLine(1, 2)", 0).given("pass(98)")
+            .due("ofLine(0, 2)", 1)
             .given("pass(1)").due("ofLine(0, 2)", 0).given("pass(1)").due("ofLine(0, 2)", 0);
         Edge.of(20, "3 TAKES that run there, and were not SENT").given(HOUSE).given("line(7, 0)")
-            .dueEach("ofLine(0, 3); ofLine(1, 3)", 0).given(59, "file(0, 0, 1, false, 0)").given("file(0, 0, 1, false, 9)")
+            .dueEach("ofLine(0, 3); ofLine(1, 3)", 0).given(59, "file(0, 0, 1, false, 0)")
+            .given("file(0, 0, 1, false, 9)")
             .dueEach("ofLine(0, 3); ofLine(1, 3)", 60).given("pass(1)").due("ofLine(0, 3)", 53).due("ofLine(1, 3)", 60)
             .given("pass(1)").due("ofLine(1, 3)", 59).given("pass(6)").due("ofLine(0, 3)", 1).given("pass(1)")
             .due("ofLine(0, 3)", 0);
     }
 
     private static void ofLineWords() {
-        Edge.of(20, "4 their WORDS that are left").given(HOUSE).given("line(1, 0)").dueEach("ofLine(0, 4); ofLine(1, 4)", 0)
+        Edge.of(20, "4 their WORDS that are left").given(HOUSE).given("line(1, 0)")
+            .dueEach("ofLine(0, 4); ofLine(1, 4)", 0)
             .given(60, "file(0, 4, 15, false, 0)").dueEach("ofLine(0, 4); ofLine(1, 4)", 10800)
             .given("pass(1)").due("ofLine(0, 4)", 10740).due("ofLine(1, 4)", 10799).given("pass(99); pass(79)")
-            .due("ofLine(0, 4)", 60).due("ofLine(0, 3)", 1).given("pass(1)").due("ofLine(0, 4)", 0).due("ofLine(0, 3)", 0);
-        Edge.of(20, "5 WORDS that were sent ever (of those that do not run any more, too)").given(HOUSE).given("line(7, 0)")
+            .due("ofLine(0, 4)", 60).due("ofLine(0, 3)", 1).given("pass(1)").due("ofLine(0, 4)", 0)
+            .due("ofLine(0, 3)", 0);
+        Edge.of(20, "4 their WORDS that are left").given(Houses.STORY)
+            .given("line(1, 0); file(0, 0, 1, false, 0); pass(6)")
+            .due("ofLine(0, 4)", 2).given("pass(1)").due("ofLine(0, 4)", 1).due("ofLine(0, 3)", 1).given("pass(1)")
+            .due("ofLine(0, 4)", 0).due("ofLine(0, 3)", 0);
+        Edge.of(20, "5 WORDS that were sent ever (of those that do not run any more, too)").given(HOUSE)
+            .given("line(7, 0)")
             .due("ofLine(1, 5)", 0).given("file(0, 0, 1, false, 0); pass(1); kill(0)").due("ofLine(0, 5)", 8)
-            .due("ofLine(1, 5)", 7).due("ofLine(1, 3)", 0).due("ofLine(1, 4)", 0).given("pass(1)").due("ofLine(0, 5)", 13)
+            .due("ofLine(1, 5)", 7).due("ofLine(1, 3)", 0).due("ofLine(1, 4)", 0).given("pass(1)")
+            .due("ofLine(0, 5)", 13)
             .due("ofLine(1, 5)", 7).given("pass(99)").due("ofLine(0, 5)", 13);
         Edge.of(20, "5 WORDS that were sent ever (of those that do not run any more, too)").given(HOUSE)
             .given(60, "file(0, 4, 15, false, 0)").given("pass(99); pass(80)").due("ofLine(0, 5)", 10740)
@@ -306,18 +324,21 @@ final class EdgesOfAsked {
         Edge.of(20, "if there is no such LINE").given(Houses.BUSY)
             .refuses(INDEX, "ofLine(2, 0); ofLine(3, 0); ofLine(4, 8); ofLine(-1, 0); ofLine(MIN, 0); ofLine(MAX, 0)")
             .due("ofLine(1, 0)", 60).due("ofLine(0, 0)", 7);
-        Edge.of(20, "if there is no such LINE").given(Houses.FULL).refuses(INDEX, "ofLine(4, 0)").due("ofLine(3, 0)", 7);
+        Edge.of(20, "if there is no such LINE").given(Houses.FULL).refuses(INDEX, "ofLine(4, 0)")
+            .due("ofLine(3, 0)", 7);
         Edge.of(20, "if what is not 0 to 7").given(Houses.BUSY)
             .refuses(ARGUMENT, "ofLine(0, -1); ofLine(0, 8); ofLine(1, -1); ofLine(1, 8); ofLine(0, MIN); ofLine(0, MAX)")
             .due("ofLine(1, 0)", 60).due("ofLine(1, 7)", 0);
     }
 
     private static void manyThere() {
-        Edge.of(21, "0 NOW").due("many(0)", 0).given("pass(1)").due("many(0)", 1).given(100, "pass(99)").given("pass(98)")
+        Edge.of(21, "0 NOW").due("many(0)", 0).given("pass(1)").due("many(0)", 1).given(100, "pass(99)")
+            .given("pass(98)")
             .due("many(0)", 9999);
         Edge.of(21, "1 SOURCES").due("many(1)", 0).given("source(1, NONE)").due("many(1)", 1).given(9, "source(1, 0)")
             .due("many(1)", 10);
-        Edge.of(21, "2 STORIES").due("many(2)", 0).given("story()").due("many(2)", 1).given(5, "story()").due("many(2)", 6);
+        Edge.of(21, "2 STORIES").due("many(2)", 0).given("story()").due("many(2)", 1).given(5, "story()")
+            .due("many(2)", 6);
         Edge.of(21, "3 LINES").due("many(3)", 0).given("line(1, 0)").due("many(3)", 1).given(3, "line(1, 0)")
             .due("many(3)", 4);
     }
@@ -331,11 +352,15 @@ final class EdgesOfAsked {
         for (int take = 0; take < 30; take++) {
             killed.given("kill(" + take + ")").due("many(5)", take + 1);
         }
-        Edge corrections = Edge.of(21, "6 CORRECTIONS").given(HOUSE).given("file(0, 0, 1, false, 0); report(0, 0, 0, 20)");
+        Edge corrections = Edge.of(21, "6 CORRECTIONS").given(HOUSE)
+            .given("file(0, 0, 1, false, 0); report(0, 0, 0, 20)");
         for (int n = 0; n < 59; n++) {
             corrections.due("many(6)", n).given("correct(0, 0)");
         }
         corrections.due("many(6)", 59);
+        Edge.of(21, "6 CORRECTIONS").given(HOUSE)
+            .given("file(0, 0, 1, false, 0); report(0, 0, 0, 20); correct(0, 0); pass(9)")
+            .due("many(6)", 1).given("kill(1)").due("many(6)", 1).due("many(5)", 1).given("pass(9)").due("many(6)", 1);
     }
 
     private static void manyFacts() {
@@ -355,7 +380,8 @@ final class EdgesOfAsked {
             .given("rival(0, 0); rival(5, 3); pass(1)").due("many(9)", 23).given("kill(1); pass(3)").due("many(9)", 23);
         Edge.of(21, "9 FACTS with which we are FIRST").given(TOLD).given("pass(8)").due("many(9)", 24);
         Edge.of(21, "10 WRONG ones at all desks together").given(TOLD).due("many(10)", 0).given("pass(9)")
-            .due("many(10)", 0).given(Houses.eachFact("report(0, STORY, FACT, 99)")).due("many(10)", 92).given("pass(1)")
+            .due("many(10)", 0).given(Houses.eachFact("report(0, STORY, FACT, 99)")).due("many(10)", 92)
+            .given("pass(1)")
             .due("many(10)", 96).given("report(0, 0, 0, 5)").due("many(10)", 92);
     }
 
@@ -367,7 +393,8 @@ final class EdgesOfAsked {
     }
 
     private static void meanDelay() {
-        Edge.of(22, "0 without any").dueExactly("meanDelay()", 0.0).given(HOUSE).given("file(0, 4, 15, false, 0); pass(2)")
+        Edge.of(22, "0 without any").dueExactly("meanDelay()", 0.0).given(HOUSE)
+            .given("file(0, 4, 15, false, 0); pass(2)")
             .dueExactly("meanDelay()", 0.0).given("kill(0); pass(9)").dueExactly("meanDelay()", 0.0);
         Edge.of(22, "from the minute in which it was filed, or its HOLD, if that is greater, up to that in which it was SENT")
             .given(HOUSE).given("pass(5); file(0, 0, 1, false, 6); pass(1)").dueExactly("meanDelay()", 0.0)
@@ -376,9 +403,11 @@ final class EdgesOfAsked {
         Edge.of(22, "(KILLED ones, too)").given(HOUSE).given("file(0, 4, 15, false, 0); pass(3)")
             .dueExactly("meanDelay()", 3.0).given("kill(0)").dueExactly("meanDelay()", 3.0).given("pass(1)")
             .dueExactly("meanDelay()", 2.0).given("pass(9)").dueExactly("meanDelay()", 2.0);
-        Edge.of(22, "not cut").given(Houses.STORY).given("line(60, 0); line(60, 0); line(4, 0); file(0, 0, 1, false, 0)")
+        Edge.of(22, "not cut").given(Houses.STORY)
+            .given("line(60, 0); line(60, 0); line(4, 0); file(0, 0, 1, false, 0)")
             .given("pass(2)").dueExactly("meanDelay()", 4.0 / 3.0);
-        Edge.of(22, "over all TAKES and LINES where one was SENT").given(HOUSE).given("line(60, 9); line(60, 0); line(60, 0)")
+        Edge.of(22, "over all TAKES and LINES where one was SENT").given(HOUSE)
+            .given("line(60, 9); line(60, 0); line(60, 0)")
             .given("down(3, 99)").given(60, "file(0, 0, 1, false, 0)").given("pass(99)")
             .dueExactly("meanDelay()", 272.0 / 60.0).given("pass(8)")
             .dueExactly("meanDelay()", (4 * 272.0 + 60 * 99) / 240.0);

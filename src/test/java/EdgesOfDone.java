@@ -81,9 +81,11 @@ final class EdgesOfDone {
             .refuses(ARGUMENT, "file(0, 3, 1, false, MAX); file(0, 0, 1, true, -1)")
             .due("file(0, 3, 1, false, 0)", 5).due("file(0, 3, 1, false, 9999)", 6).due("ofTake(5, 4)", 0)
             .due("ofTake(6, 4)", 9999);
-        Edge.of(9, "if there are 60").given(HOUSE).given(59, "file(0, 0, 1, false, 0)").due("file(0, 3, 15, false, 0)", 59)
+        Edge.of(9, "if there are 60").given(HOUSE).given(59, "file(0, 0, 1, false, 0)")
+            .due("file(0, 3, 15, false, 0)", 59)
             .refuses(STATE, "file(0, 0, 1, false, 0); file(0, 3, 15, false, 0); file(0, 4, 1, true, 9999)");
-        Edge.of(9, "if there are 60").given(Houses.FULL).refuses(STATE, "file(0, 0, 1, false, 0); file(5, 4, 15, true, 0)");
+        Edge.of(9, "if there are 60").given(Houses.FULL)
+            .refuses(STATE, "file(0, 0, 1, false, 0); file(5, 4, 15, true, 0)");
     }
 
     private static void correct() {
@@ -107,7 +109,8 @@ final class EdgesOfDone {
             .leaves("correct(0, 0)", -2).given("report(0, 0, 0, 99)").due("correct(0, 0)", 2);
         Edge.of(10, "or that is the VALUE in the TAKE (nothing is done)").given(HOUSE)
             .given("file(0, 3, 9, false, 0)").leaves("correct(0, 0)", -2).leaves("correct(0, 3)", -2)
-            .given("report(0, 0, 0, 11)").leaves("correct(0, 3)", -2).due("correct(0, 0)", 1).leaves("correct(1, 0)", -2)
+            .given("report(0, 0, 0, 11)").leaves("correct(0, 3)", -2).due("correct(0, 0)", 1)
+            .leaves("correct(1, 0)", -2)
             .given("report(0, 0, 0, 10)").leaves("correct(0, 0)", -2).due("correct(1, 0)", 2)
             .given("report(0, 0, 0, 9)").due("correct(0, 0)", 3);
         Edge.of(10, "or that is the VALUE in the TAKE (nothing is done)").given(Houses.BUSY)
@@ -118,7 +121,8 @@ final class EdgesOfDone {
         Edge.of(10, "if there is no such TAKE").given(Houses.STORY).refuses(INDEX, "correct(0, 0); correct(-1, 0)");
         Edge.of(10, "if there is no such TAKE").given(Houses.BUSY)
             .refuses(INDEX, "correct(5, 0); correct(59, 0); correct(60, 0); correct(-1, 0); correct(MIN, 0)")
-            .refuses(INDEX, "correct(MAX, 0)").given("report(0, 1, 3, 1)").due("correct(4, 3)", 5).due("correct(0, 0)", 6);
+            .refuses(INDEX, "correct(MAX, 0)").given("report(0, 1, 3, 1)").due("correct(4, 3)", 5)
+            .due("correct(0, 0)", 6);
         Edge.of(10, "if it is KILLED").given(HOUSE)
             .given("file(0, 3, 1, false, 0); file(0, 3, 1, false, 0); report(0, 0, 0, 20)").due("correct(0, 0)", 2)
             .given("kill(0)").refuses(STATE, "correct(0, 0)").due("correct(1, 0)", 4).given("report(0, 0, 0, 10)")
@@ -131,7 +135,8 @@ final class EdgesOfDone {
 
     private static void kill() {
         String sentence = "Returns on how many LINES the KILL runs";
-        Edge.of(11, sentence).given(Houses.STORY).given("file(0, 0, 1, false, 0); line(60, 0); pass(1)").due("kill(0)", 0)
+        Edge.of(11, sentence).given(Houses.STORY).given("file(0, 0, 1, false, 0); line(60, 0); pass(1)")
+            .due("kill(0)", 0)
             .due("state(0, 1)", 0);
         Edge.of(11, sentence).given(HOUSE).given("file(0, 0, 1, false, 0)").due("kill(0)", 0).due("pass(9)", 0)
             .due("state(0, 0)", 0).due("state(0, 1)", 0);
@@ -149,7 +154,8 @@ final class EdgesOfDone {
             .due("kill(0)", 1);
         Edge.of(11, "if it is a KILL").given(HOUSE).given("file(0, 0, 1, false, 0); pass(1); kill(0)")
             .refuses(STATE, "kill(1)").given("pass(1)").refuses(STATE, "kill(1)");
-        Edge.of(11, "it is KILLED").given(HOUSE).given("file(0, 0, 1, false, 0); file(0, 0, 1, false, 0); pass(1); kill(0)")
+        Edge.of(11, "it is KILLED").given(HOUSE)
+            .given("file(0, 0, 1, false, 0); file(0, 0, 1, false, 0); pass(1); kill(0)")
             .refuses(STATE, "kill(0)").given("pass(1)").refuses(STATE, "kill(0)").due("kill(1)", 1)
             .refuses(STATE, "kill(1); kill(0)");
         Edge.of(11, "or there are 60").given(HOUSE).given(59, "file(0, 0, 1, false, 0)").given("pass(1)")

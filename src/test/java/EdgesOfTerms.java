@@ -117,7 +117,8 @@ final class EdgesOfTerms {
             .due("report(0, 0, 0, 0)", 3).due("ofFact(0, 0, 0)", 0)
             .due("report(0, 0, 0, 99)", 3).due("ofFact(0, 0, 0)", 99)
             .refuses(ARGUMENT, "report(0, 0, 0, -1); report(0, 0, 0, 100); report(0, 0, 1, -1); report(0, 0, 1, 100)");
-        edge("in place of what it SAID ahead, until it RETRACTS that").given("source(3, NONE); source(1, NONE); story()")
+        edge("in place of what it SAID ahead, until it RETRACTS that")
+            .given("source(3, NONE); source(1, NONE); story()")
             .given("report(0, 0, 0, 5); report(1, 0, 0, 5); report(0, 0, 0, 6)")
             .due("proof(0, 0, 5, true)", 1).due("proof(0, 0, 6, true)", 3).due("ofFact(0, 0, 2)", 2)
             .due("retract(0, 0, 0)", 6).due("proof(0, 0, 6, true)", 0).due("proof(0, 0, 5, true)", 1)
@@ -226,7 +227,8 @@ final class EdgesOfTerms {
             .due("says(0, 0)", 10).due("says(0, 1)", 11).due("says(0, 2)", 12).due("says(0, 3)", -1);
         edge("GUARDED, what is HEARD of it, and must have that")
             .given("source(1, NONE); source(3, NONE); story(); report(0, 0, 0, 5); report(1, 0, 1, 6)")
-            .leaves("file(0, 3, 4, true, 0)", -2).leaves("file(0, 4, 7, true, 0)", -2).leaves("file(0, 0, 8, true, 0)", -2)
+            .leaves("file(0, 3, 4, true, 0)", -2).leaves("file(0, 4, 7, true, 0)", -2)
+            .leaves("file(0, 0, 8, true, 0)", -2)
             .due("file(0, 3, 3, true, 0)", 0).due("says(0, 0)", 5).due("says(0, 1)", 6)
             .given("report(1, 0, 0, 7)").due("file(0, 0, 1, true, 0)", 1).due("says(1, 0)", 7).due("says(0, 0)", 5);
         Edge flash = edge("A FLASH has one FACT").given(Houses.STORY).given("report(0, 0, 3, 13)");
@@ -262,7 +264,8 @@ final class EdgesOfTerms {
             .refuses(ARGUMENT, "correct(0, 2); correct(0, 3); correct(0, -1); correct(0, 4); correct(2, 0)")
             .refuses(STATE, "correct(1, 0)").due("correct(0, 0)", 3).due("ofTake(3, 7)", 0);
         Edge made = edge("a CORRECTION (a TAKE with that FACT alone, its TRUTH of now, 15 WORDS, not GUARDED, a HOLD of 0)")
-            .given(Houses.STORY).given("file(0, 4, 15, true, 9999); report(0, 0, 3, 20); pass(5)").due("correct(0, 3)", 1)
+            .given(Houses.STORY).given("file(0, 4, 15, true, 9999); report(0, 0, 3, 20); pass(5)")
+            .due("correct(0, 3)", 1)
             .given("report(0, 0, 3, 30)");
         int[] due = {0, 2, 8, 15, 0, 0, 0, 0, 5};
         for (int what = 0; what < due.length; what++) {
@@ -285,7 +288,8 @@ final class EdgesOfTerms {
         }
         made.dueEach("says(1, 0); says(1, 1); says(1, 2); says(1, 3)", -1);
         edge("The KILL runs on those LINES alone where that TAKE was SENT; on others that one does not run any more")
-            .given(Houses.STORY).given("line(8, 0); line(7, 0); line(60, 9); file(0, 0, 1, false, 0); line(60, 0); pass(1)")
+            .given(Houses.STORY)
+            .given("line(8, 0); line(7, 0); line(60, 9); file(0, 0, 1, false, 0); line(60, 0); pass(1)")
             .due("state(0, 0)", 4).due("state(1, 0)", 2).due("state(2, 0)", 3).due("state(3, 0)", 0).due("kill(0)", 2)
             .due("state(0, 1)", 1).due("state(1, 1)", 0).due("state(2, 1)", 1).due("state(3, 1)", 0)
             .due("state(0, 0)", 4).due("state(1, 0)", 0).due("state(2, 0)", 3).due("state(3, 0)", 0)
@@ -324,7 +328,8 @@ final class EdgesOfTerms {
         edge("one that is DOWN is so for 1 minute less").given(Houses.STORY)
             .given("line(60, 0); line(60, 0); line(60, 0); down(1, 1); down(2, 99); file(0, 0, 1, false, 0)")
             .due("pass(1)", 1).due("state(0, 0)", 4).due("ofLine(0, 2)", 0).due("state(1, 0)", 1).due("ofLine(1, 2)", 0)
-            .due("state(2, 0)", 1).due("ofLine(2, 2)", 98).due("pass(1)", 1).due("state(1, 0)", 4).due("ofLine(1, 2)", 0)
+            .due("state(2, 0)", 1).due("ofLine(2, 2)", 98).due("pass(1)", 1).due("state(1, 0)", 4)
+            .due("ofLine(1, 2)", 0)
             .due("pass(97)", 0).due("state(2, 0)", 1).due("ofLine(2, 2)", 0).due("pass(1)", 1).due("state(2, 0)", 4)
             .due("ofLine(2, 2)", 0);
         edge("Another one sends as many WORDS as its SPEED, one behind the other").given(Houses.STORY)
@@ -402,7 +407,8 @@ final class EdgesOfTerms {
             .due("ofFact(0, 3, 4)", 1);
         edge("if a desk HAD a TAKE with it (any VALUE) at a minute that is ahead of that").given(Houses.STORY)
             .given("line(60, 0); file(0, 3, 7, false, 0); pass(1); rival(0, 0); pass(1); rival(0, 1); pass(1)")
-            .given("rival(0, 2)").dueEach("ofFact(0, 0, 5); ofFact(0, 1, 5); ofFact(0, 2, 5)", 2).due("ofFact(0, 0, 6)", 0)
+            .given("rival(0, 2)").dueEach("ofFact(0, 0, 5); ofFact(0, 1, 5); ofFact(0, 2, 5)", 2)
+            .due("ofFact(0, 0, 6)", 0)
             .due("ofFact(0, 1, 6)", 0).due("ofFact(0, 2, 6)", 1).given("report(0, 0, 2, 99)").due("ofFact(0, 2, 6)", 1);
         edge("or at all, if no RIVAL told it by now").given(Houses.STORY).given("line(60, 1); file(0, 0, 1, false, 0)")
             .due("ofFact(0, 0, 6)", 0).given("pass(1)").due("ofFact(0, 0, 6)", 0).given("pass(1)")
@@ -436,14 +442,23 @@ final class EdgesOfTerms {
     private static void exceptionsOfTakes() {
         String first = "If several exceptions apply, the one that is named first is thrown";
         edge(first).given(Houses.FULL)
-            .refuses(INDEX, "source(0, 10); source(1, 10); report(10, 0, 0, 100); report(0, 6, 0, 100); down(4, 100);"
-                + "file(6, 1, 0, false, -1); file(6, 0, 1, false, 0); correct(60, 4); correct(60, 0); kill(60);"
-                + "ofFact(6, 0, 7); ofFact(0, 4, 7); proof(6, 0, 100, true); ofTake(60, 9); ofLine(4, 8);"
-                + "wouldArrive(4, 5, 0); needs(6, 0, 100, 0); needs(0, 4, 0, 4); lead(6, 100)")
-            .refuses(ARGUMENT, "source(4, 9); line(61, 0); line(1, 10); file(0, 1, 1, false, 0); file(0, 0, 16, false, 0);"
-                + "file(0, 0, 1, false, 10000); correct(1, 4); correct(6, 1)");
+            .refuses(INDEX, "source(0, 10); source(4, -2); source(1, 10); report(10, 0, 0, 100); report(-1, 0, 0, -1);"
+                + "report(0, 6, 0, 100); report(0, -1, 0, -1); report(0, 0, 4, 100); report(0, 0, -1, -1); down(4, 100);"
+                + "down(-1, -1); file(6, 1, 1, false, 0); file(6, 0, 0, false, 0); file(6, 0, 16, false, 0);"
+                + "file(6, 0, 1, false, -1); file(-1, 0, 1, false, 10000); file(6, 0, 1, false, 0); correct(60, 4);"
+                + "correct(-1, -1); correct(60, 0); kill(60); ofFact(6, 0, 7); ofFact(-1, 0, -1); ofFact(0, 4, 7);"
+                + "ofFact(0, -1, -1); proof(6, 0, 100, true); proof(-1, 0, -1, true); proof(0, 4, 100, true);"
+                + "proof(0, -1, -1, true); ofTake(60, 9); ofTake(-1, -1); ofLine(4, 8); ofLine(-1, -1)")
+            .refuses(INDEX, "wouldArrive(4, 5, 1); wouldArrive(-1, -1, 1); wouldArrive(4, 0, 0); wouldArrive(4, 0, 201);"
+                + "needs(6, 0, 100, 1); needs(-1, 0, -1, 1); needs(6, 0, 0, 0); needs(6, 0, 0, 4); needs(0, 4, 100, 1);"
+                + "needs(0, -1, -1, 1); needs(0, 4, 0, 0); needs(0, -1, 0, 4); lead(6, 100); lead(-1, -1)")
+            .refuses(ARGUMENT, "source(0, NONE); source(4, 9); line(0, 0); line(61, 0); line(1, -1); line(1, 10);"
+                + "file(0, 1, 1, false, 0); file(0, 0, 0, false, 0); file(0, 0, 16, false, 0); file(0, 0, 1, false, -1);"
+                + "file(0, 0, 1, false, 10000); correct(1, 4); correct(1, -1); correct(0, 4); correct(6, 1)");
         edge(first).given(Houses.STORY).given("file(0, 0, 1, false, 0); kill(0)")
-            .refuses(ARGUMENT, "correct(0, 1); correct(0, 4)").refuses(INDEX, "retract(2, 0, 0); retract(1, 1, 0)");
+            .refuses(ARGUMENT, "correct(0, 1); correct(0, 4); correct(0, -1)")
+            .refuses(INDEX, "retract(2, 0, 0); retract(-1, 0, 0); retract(1, 1, 0); retract(1, -1, 0); retract(1, 0, 4)")
+            .refuses(INDEX, "retract(1, 0, -1)");
         edge(first).given(101, "pass(99)").refuses(ARGUMENT, "pass(0); pass(100)");
         String ahead = "An exception goes ahead of -2 and -3";
         edge(ahead).given(Houses.STORY).given("file(0, 0, 1, false, 0); kill(0); retract(0, 0, 0)")
@@ -464,7 +479,8 @@ final class EdgesOfTerms {
             .leaves("wouldArrive(0, 3, 50)", 16 + 3).leaves("wouldArrive(1, 4, 200)", 5 + 4)
             .leaves("needs(0, 0, 40, 1)", 0).leaves("needs(0, 0, 41, 3)", 2).leaves("needs(0, 0, 39, 3)", 1)
             .leaves("lead(0, 35)", 1).leaves("lead(0, 50)", 3);
-        edge(sentence).given(Houses.STORY).given("line(1, 9)").given(101, "pass(99)").given("file(0, 4, 1, false, 9999)")
+        edge(sentence).given(Houses.STORY).given("line(1, 9)").given(101, "pass(99)")
+            .given("file(0, 4, 1, false, 9999)")
             .leaves("arrives(0, 0)", 90 + 9).leaves("wouldArrive(0, 0, 8)", 8 + 9).leaves("wouldArrive(0, 4, 1)", -1)
             .refuses(STATE, "pass(1)");
         edge(sentence).given(Houses.FULL)

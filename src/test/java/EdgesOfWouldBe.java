@@ -31,7 +31,8 @@ final class EdgesOfWouldBe {
 
     private static void arrives() {
         Edge.of(23, "Returns in how many minutes the desk will HAVE it, if nothing else is done").given(HOUSE)
-            .given("line(8, 0); line(7, 9); file(0, 0, 1, false, 0)").due("arrives(0, 0)", 1).due("arrives(1, 0)", 2 + 9)
+            .given("line(8, 0); line(7, 9); file(0, 0, 1, false, 0)").due("arrives(0, 0)", 1)
+            .due("arrives(1, 0)", 2 + 9)
             .given("file(0, 0, 1, false, 0)").due("arrives(0, 1)", 2).due("arrives(1, 1)", 3 + 9).given("pass(1)")
             .due("arrives(0, 1)", 1).due("arrives(1, 0)", 1 + 9).given("pass(1)").due("arrives(0, 1)", 0)
             .due("arrives(1, 0)", 9).given("pass(8)").due("arrives(1, 0)", 1).due("arrives(1, 1)", 2).given("pass(1)")
@@ -123,7 +124,8 @@ final class EdgesOfWouldBe {
             .due("wouldArrive(3, 0, 1)", 60 + 2);
         Edge.of(24, "if kind is not 0 to 4").given(Houses.BUSY)
             .refuses(ARGUMENT, "wouldArrive(0, -1, 1); wouldArrive(0, 5, 1); wouldArrive(0, MIN, 1)")
-            .refuses(ARGUMENT, "wouldArrive(0, MAX, 1)").due("wouldArrive(0, 0, 1)", 4).due("wouldArrive(0, 4, 1)", 9 + 3);
+            .refuses(ARGUMENT, "wouldArrive(0, MAX, 1)").due("wouldArrive(0, 0, 1)", 4)
+            .due("wouldArrive(0, 4, 1)", 9 + 3);
         Edge.of(24, "or words not 1 to 200").given(Houses.BUSY)
             .refuses(ARGUMENT, "wouldArrive(0, 0, 0); wouldArrive(0, 0, 201); wouldArrive(0, 4, -1)")
             .refuses(ARGUMENT, "wouldArrive(0, 0, MIN); wouldArrive(0, 0, MAX)").due("wouldArrive(0, 0, 1)", 4)
@@ -143,6 +145,10 @@ final class EdgesOfWouldBe {
             .given("source(2, NONE); source(1, NONE); source(3, NONE); story(); report(0, 0, 0, 50); report(1, 0, 0, 50)")
             .due("needs(0, 0, 50, 1)", 1).due("needs(0, 0, 51, 3)", 1).due("needs(0, 0, 51, 2)", 2)
             .given("report(2, 0, 0, 60)").due("needs(0, 0, 50, 1)", 1).due("needs(0, 0, 61, 3)", 2);
+        Edge.of(25, "so that it is the TRUTH (0, if it is)")
+            .given("source(3, NONE); source(1, NONE); source(1, NONE); source(1, 1); story(); report(0, 0, 0, 50)")
+            .given("report(1, 0, 0, 50); report(2, 0, 0, 20); report(3, 0, 0, 99)").due("needs(0, 0, 49, 2)", 2)
+            .due("needs(0, 0, 51, 2)", 3).due("needs(0, 0, 20, 3)", 1).due("needs(0, 0, 99, 3)", 2);
     }
 
     private static void needsMost() {
@@ -163,7 +169,8 @@ final class EdgesOfWouldBe {
     }
 
     private static void needsRefused() {
-        Edge.of(25, "if there is no such STORY").refuses(INDEX, "needs(0, 0, 0, 1); needs(-1, 0, 0, 1)").given("story()")
+        Edge.of(25, "if there is no such STORY").refuses(INDEX, "needs(0, 0, 0, 1); needs(-1, 0, 0, 1)")
+            .given("story()")
             .refuses(INDEX, "needs(1, 0, 0, 1)").due("needs(0, 0, 0, 1)", 3);
         Edge.of(25, "if there is no such STORY").given(Houses.FULL)
             .refuses(INDEX, "needs(6, 0, 0, 1); needs(-1, 3, 0, 1); needs(MIN, 0, 0, 1); needs(MAX, 0, 0, 1)")
@@ -182,20 +189,26 @@ final class EdgesOfWouldBe {
 
     private static void lead() {
         String words = "in a LEAD with no more than so many WORDS";
-        Edge.of(26, words).given(HOUSE).given("retract(1, 0, 3)").dueEach("lead(0, 0); lead(0, 34)", 0).dueEach("lead(0, 35); lead(0, 49)", 1)
+        Edge.of(26, words).given(HOUSE).given("retract(1, 0, 3)").dueEach("lead(0, 0); lead(0, 34)", 0)
+            .dueEach("lead(0, 35); lead(0, 49)", 1)
             .dueEach("lead(0, 50); lead(0, 64)", 3).dueEach("lead(0, 65); lead(0, 79)", 7)
             .dueEach("lead(0, 80); lead(0, 99)", 15);
         Edge.of(26, "Returns the set of FACTS with a TRUTH").given(Houses.STORY).due("lead(0, 99)", 7)
             .given("retract(0, 0, 0)").due("lead(0, 99)", 6).due("lead(0, 35)", 2).given("retract(0, 0, 1)")
             .due("lead(0, 99)", 4).given("report(0, 0, 3, 13); retract(0, 0, 2)").due("lead(0, 99)", 8);
-        Edge.of(26, "for which the sum of FORCES of their TRUTHS is greatest; of several the smallest number").given(HOUSE)
+        Edge.of(26, "Returns the set of FACTS with a TRUTH").given(HOUSE)
+            .given("report(0, 0, 0, 0); report(0, 0, 3, 99)")
+            .due("lead(0, 99)", 15).given("retract(0, 0, 1); retract(0, 0, 2); retract(0, 0, 3)").due("lead(0, 99)", 1);
+        Edge.of(26, "for which the sum of FORCES of their TRUTHS is greatest; of several the smallest number")
+            .given(HOUSE)
             .given("retract(1, 0, 3)").due("lead(0, 35)", 1).given("report(1, 0, 2, 12)").due("lead(0, 35)", 4)
             .due("lead(0, 50)", 5).given("report(1, 0, 3, 13)").due("lead(0, 35)", 4).due("lead(0, 50)", 12)
             .due("lead(0, 65)", 13).given("report(1, 0, 1, 11)").due("lead(0, 35)", 2).due("lead(0, 50)", 6)
             .due("lead(0, 65)", 14).given("retract(1, 0, 3)").due("lead(0, 65)", 7).due("lead(0, 50)", 6)
             .due("lead(0, 80)", 15).given("report(1, 0, 0, 99)").due("lead(0, 35)", 2).given("retract(1, 0, 2)")
             .due("lead(0, 50)", 3);
-        Edge.of(26, "0, if there is none").given("source(1, NONE); source(3, NONE); story(); story()").due("lead(0, 99)", 0)
+        Edge.of(26, "0, if there is none").given("source(1, NONE); source(3, NONE); story(); story()")
+            .due("lead(0, 99)", 0)
             .given("report(0, 0, 0, 5)").due("lead(0, 99)", 0).given("report(1, 0, 0, 5)").due("lead(0, 99)", 1)
             .due("lead(0, 34)", 0).due("lead(1, 99)", 0).given("retract(1, 0, 0)").due("lead(0, 99)", 0);
     }
@@ -218,7 +231,7 @@ final class EdgesOfWouldBe {
             + " wouldArrive() of 3 and 50, TAKE by TAKE state(); LINE by LINE, STORY by STORY, FACT by FACT tells()";
         String take = Houses.STORY + "; file(0, 4, 7, false, 0)";
         for (String house : new String[] {"source(3, NONE)", "story()", "line(1, 0)", "story(); line(1, 0)", take,
-            take + "; line(1, 0)", "line(5, 2); " + take, Houses.BUSY}) {
+            take + "; line(1, 0)", "line(5, 2); " + take, "source(3, NONE); story(); report(0, 0, 3, 50)", Houses.BUSY}) {
             Edge edge = Edge.of(27, list).given(house);
             edge.due("digest()", sumOf(edge.soFar().answers(summed(edge.soFar()))));
         }
