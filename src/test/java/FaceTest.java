@@ -57,8 +57,20 @@ public final class FaceTest {
         for (Class<?> inner : c.getDeclaredClasses()) {
             Check.due("the class " + inner.getName() + " is static", Modifier.isStatic(inner.getModifiers()), true);
             Check.due("the class " + inner.getName() + " is not public", Modifier.isPublic(inner.getModifiers()), false);
+            for (Method m : inner.getDeclaredMethods()) {
+                Check.due(m + " bears the name of a call of the face", isCall(m.getName()), false);
+            }
         }
         Check.end();
+    }
+
+    private static boolean isCall(String name) {
+        for (String form : FACE) {
+            if (form.substring(form.indexOf(' ') + 1, form.indexOf('(')).equals(name)) {
+                return true;
+            }
+        }
+        return false;
     }
 
     private static void compareMethods(Class<?> c) {
